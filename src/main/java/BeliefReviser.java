@@ -389,7 +389,7 @@ public final class BeliefReviser {
     private int count = 0;
 
     Base() {
-      meets[0] = EVERYWHERE;
+      put(meets, 0, EVERYWHERE);
     }
 
     int count() {

@@ -58,6 +58,11 @@ public final class InferenceTest {
     x.drop();
     check.due("20 remainders of what does not follow", x.remainders(), 1);
     check.due("21 all of the base", x.remainder(0), 7);
+    Sample.believe(x, 2, 1);
+    x.drop();
+    check.due("20 remainders as if the dropped one had never been", x.remainders(), 1);
+    check.due("21 all of the base without it", x.remainder(0), 7);
+    check.due("22 bestRemainder without it", x.bestRemainder(), 7);
   }
 
   private static void ofNoSentences() {
@@ -182,6 +187,8 @@ public final class InferenceTest {
     check.due("23 the least of each kernel", x.cut(), 5);
     x.setRank(0, 5);
     check.due("23 several least of a kernel", x.cut(), 15);
+    x.setRank(0, 6);
+    check.due("23 another least of a kernel, one less than the next", x.cut(), 14);
     x.setRank(0, 9);
     check.due("23 another least of a kernel", x.cut(), 14);
     x.atom(2);

@@ -170,12 +170,18 @@ public final class Model {
     return entail(set, p);
   }
 
-  private List<Integer> allKernels() {
+  /** For each set of the base whether it entails the sentence on top of the pile. */
+  private boolean[] entailing() {
     int p = need(1);
     boolean[] entail = new boolean[1 << base.size()];
     for (int set = 0; set < entail.length; set++) {
       entail[set] = entail(set, p);
     }
+    return entail;
+  }
+
+  private List<Integer> allKernels() {
+    boolean[] entail = entailing();
     List<Integer> found = new ArrayList<>();
     for (int set = 0; set < entail.length; set++) {
       boolean fits = entail[set];
@@ -190,11 +196,7 @@ public final class Model {
   }
 
   private List<Integer> allRemainders() {
-    int p = need(1);
-    boolean[] entail = new boolean[1 << base.size()];
-    for (int set = 0; set < entail.length; set++) {
-      entail[set] = entail(set, p);
-    }
+    boolean[] entail = entailing();
     List<Integer> found = new ArrayList<>();
     for (int set = 0; set < entail.length; set++) {
       boolean fits = !entail[set];

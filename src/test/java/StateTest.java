@@ -15,6 +15,7 @@ public final class StateTest {
     firmness();
     would();
     layers();
+    eachWorldAlone();
     share();
     digest();
     check.end();
@@ -243,6 +244,37 @@ public final class StateTest {
     y.atom(0);
     y.learn(0, 9);
     check.due("34 two layers with a gap", y.layers(), 2);
+  }
+
+  /** Each world in turn is the only one that is held possible; atom k has the rank 2 * k + 1. */
+  private static void eachWorldAlone() {
+    for (int world = 0; world < 16; world++) {
+      BeliefReviser x = Sample.fresh();
+      for (int k = 0; k < 4; k++) {
+        Sample.believe(x, (world >> k & 1) == 1 ? k : ~k, 2 * k + 1);
+      }
+      check.due("28 load for world " + world, x.load(), 1 << world);
+      check.due("30 possible for world " + world, x.possible(), 1 << world);
+      check.due("34 layers for world " + world, x.layers(), 5);
+      for (int k = 0; k < 4; k++) {
+        check.due("29 level beside world " + world, x.level(world ^ 1 << k), 2 * k + 1);
+        check.due("35 share for world " + world, x.share(k), (double) (world >> k & 1));
+        x.recall(k);
+        check.due("32 firmness for world " + world, x.firmness(), 2 * k + 1);
+        x.negate();
+        check.due("32 firmness of NOT for world " + world, x.firmness(), 0);
+        x.recall(k);
+        check.due("33 would for world " + world, x.would(), false);
+        x.negate();
+        check.due("33 would of NOT for world " + world, x.would(), true);
+        check.due("31 doubt for world " + world, x.learn(3, 0), 1 << world);
+        x.pop();
+        x.pop();
+      }
+      x.recall(0);
+      check.due("31 doubt of what is true in world " + world, x.learn(3, 0),
+          1 << world | 1 << (world ^ 1));
+    }
   }
 
   private static void share() {
