@@ -2,11 +2,13 @@ import java.lang.reflect.Constructor;
 import java.lang.reflect.Field;
 import java.lang.reflect.Method;
 import java.lang.reflect.Modifier;
-import java.util.Arrays;
 import java.util.Set;
 import java.util.TreeSet;
 
-/** The public face: just the constructor and the methods of the document. */
+/**
+ * The public face: just the constructor and the methods of the document, which declare no other
+ * exceptions than it names.
+ */
 public final class FaceTest {
   private static final Check check = new Check("FaceTest");
 
@@ -58,17 +60,23 @@ public final class FaceTest {
     for (Method method : face.getDeclaredMethods()) {
       if (!Modifier.isPrivate(method.getModifiers())) {
         open.add(told(method));
+        check.due(method + " is static", Modifier.isStatic(method.getModifiers()), false);
+        check.due(method + " declares other exceptions", declaresOthers(method), false);
       } else {
         check.due("a private method named " + method.getName(), isFaceName(method), false);
       }
     }
-    check.due("the methods", open.toString(), new TreeSet<>(Arrays.asList(FACE)).toString());
+    Set<String> due = new TreeSet<>();
+    for (String line : FACE) {
+      due.add(line.substring(0, line.indexOf(')') + 1));
+    }
+    check.due("the methods", open.toString(), due.toString());
     for (Field field : face.getDeclaredFields()) {
       check.due(field + " is private", Modifier.isPrivate(field.getModifiers()), true);
     }
     for (Class<?> inside : face.getDeclaredClasses()) {
-      check.due(inside + " is private and static",
-          Modifier.toString(inside.getModifiers()), "private static final");
+      int kind = inside.getModifiers() & (Modifier.PUBLIC | Modifier.PROTECTED);
+      check.due(inside + " is private or package-visible", kind, 0);
     }
     check.end();
   }
@@ -79,11 +87,18 @@ public final class FaceTest {
     for (Class<?> type : method.getParameterTypes()) {
       told.append(told.charAt(told.length() - 1) == '(' ? "" : ",").append(type.getName());
     }
-    told.append(')');
+    return told.append(')').toString();
+  }
+
+  private static boolean declaresOthers(Method method) {
     for (Class<?> type : method.getExceptionTypes()) {
-      told.append(' ').append(type.getSimpleName());
+      for (String line : FACE) {
+        if (line.startsWith(told(method)) && !line.contains(" " + type.getSimpleName())) {
+          return true;
+        }
+      }
     }
-    return told.toString();
+    return false;
   }
 
   private static boolean isFaceName(Method method) {

@@ -185,8 +185,9 @@ public final class Model {
     List<Integer> found = new ArrayList<>();
     for (int set = 0; set < entail.length; set++) {
       boolean fits = entail[set];
-      for (int part = 0; fits && part < set; part++) {
-        fits = (part & set) != part || !entail[part];
+      for (int part = set; fits && part > 0;) {
+        part = (part - 1) & set;
+        fits = !entail[part];
       }
       if (fits) {
         found.add(set);
@@ -200,8 +201,9 @@ public final class Model {
     List<Integer> found = new ArrayList<>();
     for (int set = 0; set < entail.length; set++) {
       boolean fits = !entail[set];
-      for (int whole = set + 1; fits && whole < entail.length; whole++) {
-        fits = (whole & set) != set || entail[whole];
+      for (int whole = set; fits && whole < entail.length - 1;) {
+        whole = (whole + 1) | set;
+        fits = entail[whole];
       }
       if (fits) {
         found.add(set);

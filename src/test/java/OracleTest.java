@@ -7,7 +7,7 @@ import java.util.Random;
 /** Long runs of calls, the same ones in each run of the test, answered by the program and a model. */
 public final class OracleTest {
   private static final int RUNS = 400;
-  private static final int CALLS = 510;
+  private static final int LIFE = 512;
   private static final Check check = new Check("OracleTest");
   private static final Method[] METHODS = methods();
 
@@ -29,21 +29,22 @@ public final class OracleTest {
     Random random = new Random(run);
     BeliefReviser program = new BeliefReviser();
     Model model = new Model();
-    for (int call = 0; call < CALLS; call++) {
+    for (int call = 1; call < LIFE; call++) {
       Method method = pick(random, run);
       Object[] arguments = arguments(random, method);
       String told = "run " + run + ", call " + call + ": " + method.getName()
           + Arrays.toString(arguments);
       String want = answer(model, method, arguments);
       check.due(told, answer(program, method, arguments), want);
-      if (want.startsWith("throws")) {
+      if (want.startsWith("throws") && call < LIFE - 1) {
         check.due(told + ", digest after it", program.digest(), model.digest());
         call++;
       }
     }
-    check.due("run " + run + ": digest", program.digest(), model.digest());
     if (run % 20 == 0) {
-      check.due("run " + run + ": core", program.core(), model.wholeCore());
+      check.due("run " + run + ": core as the last call", program.core(), model.wholeCore());
+    } else {
+      check.due("run " + run + ": digest as the last call", program.digest(), model.digest());
     }
   }
 
