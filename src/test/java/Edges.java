@@ -89,13 +89,8 @@ final class Edges {
   }
 
   private void holdsAsLast(List<String> lines) {
-    BeliefReviser x = aged(LIFE - lines.size());
-    String answer = "";
-    for (String line : lines) {
-      answer = Script.answer(x, line);
-    }
-    String last = lines.get(lines.size() - 1);
-    due(Script.call(last) + " as the 512th call", answer, Script.due(last));
+    String last = Script.call(lines.get(lines.size() - 1));
+    follow(aged(LIFE - lines.size()), lines, ", the 512th call being " + last);
   }
 
   private void changesNothing(List<String> before, String refused) {
@@ -112,11 +107,15 @@ final class Edges {
       throw new IllegalStateException(sentence + ": no room for a portrait");
     }
     made.add(refused);
-    same(what, Portrait.of(after(aged(0), made)), twin);
-    same(what + ", late", Portrait.of(after(aged(LIFE - calls - twin.size()), made)), twin);
-    BeliefReviser last = after(aged(LIFE - calls - 1), made);
-    due("digest after " + Script.call(refused) + ", as the 512th call",
-        "digest = " + Script.answer(last, "digest"), twin.get(0));
+    for (int age : new int[] {0, LIFE - calls - twin.size()}) {
+      BeliefReviser x = aged(age);
+      follow(x, made, " after " + age + " other calls");
+      same(what + " and " + age + " other calls", Portrait.of(x), twin);
+    }
+    BeliefReviser last = aged(LIFE - calls - 1);
+    follow(last, made, " as the 511th call");
+    due(what + ", the digest as the 512th call", "digest = " + Script.answer(last, "digest"),
+        twin.get(0));
   }
 
   private BeliefReviser aged(int calls) {

@@ -93,10 +93,19 @@ public final class LifeTest {
     }
     String[] onEmptyPile = {"negate", "join 0", "pop", "top", "add 1", "drop", "entails 0",
         "kernels", "kernel 0", "remainders", "remainder 0", "bestRemainder", "cut", "degree",
-        "isBelieved", "learn 1 0", "firmness", "would"};
+        "isBelieved", "learn 0 0", "learn 1 0", "learn 2 0", "learn 3 0", "firmness", "would"};
     for (String call : onEmptyPile) {
       String refused = call + " = " + Script.STATE + ";";
       lives("refused again and again: " + call, fill("", refused, "atom 0 = 1; pop = 0;" + refused));
+      if (!call.equals("drop")) {
+        lives("refused again and again, beside a base: " + call, fill(Build.state(0, 4), refused,
+            "size = 4; atom 0 = 1; pop = 0;" + refused));
+      }
+    }
+    for (String call : new String[] {"learn 0 5", "learn 1 0", "learn 2 0", "learn 3 0"}) {
+      boolean isTrue = call.startsWith("learn 3");
+      lives("refused again and again: nothing to learn, " + call, fill(Build.LEVELS + "constant "
+          + isTrue + ";", call + " = " + Script.STATE + ";", "negate; " + call + ";"));
     }
     for (String call : new String[] {"atom 0", "constant true", "recall 0", "add 1"}) {
       lives("refused again and again: full, " + call, fill(Build.state(12, 10), call + " = "
@@ -125,12 +134,16 @@ public final class LifeTest {
     String part = "recall 0; learn 0 9; pop; recall 1; learn 0 9; pop; recall 2; learn 0 9; pop;";
     String[] rests = {"level 0", "possible; level 0; level 1; level 2; level 3; layers; digest",
         "recall 0; learn 2 0; level 0; level 1; level 2; level 3", "recall 0; learn 3 0; level 0",
+        "recall 0; negate; learn 2 0; level 0; level 1; level 2; level 3; layers",
+        "constant true; learn 2 0; level 0; level 1; level 2; level 3; layers",
         "recall 1; learn 1 0; level 0", "recall 0; negate; firmness", "atom 0; negate; atom 1; would",
         "load; level 0; layers; digest"};
     for (String rest : rests) {
       lives("31 FIRM, then " + rest, Edges.asModel(fill(given, part, rest)));
     }
     lives("31 FIRM", fill(given, part, "level 15; level 0 = 1476"));
+    lives("31 STRICT after FIRM", fill(given, part, "recall 0; negate; learn 2 0; level 0 = 1;"
+        + "level 1 = 2; level 2 = 2; level 3 = 0; layers = 3"));
   }
 
   private static void strictly() {

@@ -86,7 +86,7 @@ public final class PileEdgeTest {
   private static void atomOnFullPile() {
     for (int atom = 0; atom < 4; atom++) {
       edges.holds("2 Throws IllegalStateException if the pile has 12 sentences: atom " + atom,
-          Build.state(11, 3), "atom " + atom + " = 12", "top = " + Build.ATOMS[atom],
+          Build.state(11, 4), "atom " + atom + " = 12", "top = " + Build.ATOMS[atom],
           "atom " + atom + " = " + Script.STATE, "height = 12",
           "atom " + (3 - atom) + " = " + Script.STATE, "top = " + Build.ATOMS[atom],
           "pop = 11", "atom " + atom + " = 12", "atom " + atom + " = " + Script.STATE);
@@ -115,7 +115,7 @@ public final class PileEdgeTest {
     for (boolean isTrue : new boolean[] {true, false}) {
       String call = "constant " + isTrue;
       edges.holds("3 Throws IllegalStateException if the pile has 12 sentences: " + isTrue,
-          Build.state(11, 3), call + " = 12", call + " = " + Script.STATE,
+          Build.state(11, 4), call + " = 12", call + " = " + Script.STATE,
           "constant " + !isTrue + " = " + Script.STATE, "height = 12",
           "top = " + (isTrue ? ALL : 0), "pop = 11", call + " = 12", call + " = " + Script.STATE);
     }

@@ -14,6 +14,9 @@ public final class StateEdgeTest {
   private static final int[] MIXED = {0, 2, 2, 5, 7, 7, 1, 0, 3, 3, 3, 9, 4, 6, 6, 8};
   private static final String MIX = Build.load(MIXED);
 
+  /** The same levels; sentences on the pile and in the base, and room for more. */
+  private static final String RICH = MIX + Build.base(4) + Build.pile(3);
+
   public static void main(String[] args) {
     loadOfNone();
     loadOfEachRank();
@@ -170,7 +173,9 @@ public final class StateEdgeTest {
     for (int world : Far.outside(0, 15)) {
       String refused = "level " + world + " = " + Script.INDEX;
       edges.holds("29 Throws IndexOutOfBoundsException if world is not 0 to 15: new", refused);
-      edges.holds("29 Throws IndexOutOfBoundsException if world is not 0 to 15", MIX, refused,
+      edges.holds("29 Throws IndexOutOfBoundsException if world is not 0 to 15: all full",
+          Build.state(12, 10), refused);
+      edges.holds("29 Throws IndexOutOfBoundsException if world is not 0 to 15", RICH, refused,
           "level 0 = 0", "level 15 = 8");
     }
   }
@@ -321,10 +326,10 @@ public final class StateEdgeTest {
     for (int way : Far.outside(0, 3)) {
       for (int firmness : new int[] {0, 9, -1, 10}) {
         String call = "learn " + way + " " + firmness + " = " + Script.ARGUMENT;
-        edges.holds("31 Throws IllegalArgumentException if way is not 0 to 3", Build.state(1, 3),
+        edges.holds("31 Throws IllegalArgumentException if way is not 0 to 3", Build.state(1, 4),
             call, "atom 3", call);
         edges.holds("31 .. named first: way is not 0 to 3, and the pile is empty",
-            Build.state(0, 3), call);
+            Build.state(0, 4), call);
         edges.holds("31 .. named first: way is not 0 to 3, and the sentence is TRUE or FALSE",
             Build.LEVELS, "constant false", call, "constant true", call);
       }
@@ -335,9 +340,9 @@ public final class StateEdgeTest {
     for (int firmness : Far.outside(0, 9)) {
       String call = "learn 0 " + firmness + " = " + Script.ARGUMENT;
       edges.holds("31 Throws IllegalArgumentException if it is 0, and firmness is not 0 to 9",
-          Build.state(2, 3), call, "height = 2");
+          Build.state(2, 4), call, "height = 2");
       edges.holds("31 .. named first: firmness is not 0 to 9, and the pile is empty",
-          Build.state(0, 3), call);
+          Build.state(0, 4), call);
       edges.holds("31 .. named first: firmness is not 0 to 9, and the sentence is TRUE or FALSE",
           Build.LEVELS, "constant false", call, "constant true", call);
     }
@@ -370,14 +375,14 @@ public final class StateEdgeTest {
       for (int firmness : new int[] {0, 5, 9}) {
         String call = "learn " + way + " " + firmness + " = " + Script.STATE;
         edges.holds("31 Throws IllegalStateException if the pile is empty: new", call);
-        edges.holds("31 Throws IllegalStateException if the pile is empty", Build.state(0, 3),
-            call, "size = 3");
+        edges.holds("31 Throws IllegalStateException if the pile is empty", Build.state(0, 4),
+            call, "size = 4");
         edges.holds("31 Throws IllegalStateException if the pile is empty: after pop",
             Build.state(1, 10), "learn " + way + " " + firmness, "pop = 0", call);
       }
       if (way != 0) {
         edges.holds("31 Throws IllegalStateException if the pile is empty: any firmness",
-            Build.state(0, 3), "learn " + way + " -1 = " + Script.STATE,
+            Build.state(0, 4), "learn " + way + " -1 = " + Script.STATE,
             "learn " + way + " 10 = " + Script.STATE,
             "learn " + way + " " + Integer.MIN_VALUE + " = " + Script.STATE,
             "learn " + way + " " + Integer.MAX_VALUE + " = " + Script.STATE);
@@ -391,17 +396,17 @@ public final class StateEdgeTest {
         String call = "learn " + way + " " + firmness;
         String words = "31 .. the way is not 3, and the sentence is true in no world: way " + way;
         edges.holds(words, "constant false", call + " = " + Script.STATE, state(ZERO));
-        edges.holds(words, Build.state(3, 3), "atom 0; atom 0; negate; join 0 = 0",
+        edges.holds(words, Build.state(3, 4), "atom 0; atom 0; negate; join 0 = 0",
             call + " = " + Script.STATE, "negate = " + ALL, call);
-        edges.holds(words + ", on a full pile", Build.state(11, 3), "constant false",
+        edges.holds(words + ", on a full pile", Build.state(11, 4), "constant false",
             call + " = " + Script.STATE);
       }
       String call = "learn 3 " + firmness;
       String words = "31 .. the way is 3, and it is true in all worlds";
       edges.holds(words, "constant true", call + " = " + Script.STATE, state(ZERO));
-      edges.holds(words, Build.state(3, 3), "atom 0; atom 0; join 3 = " + ALL,
+      edges.holds(words, Build.state(3, 4), "atom 0; atom 0; join 3 = " + ALL,
           call + " = " + Script.STATE, "negate = 0", call);
-      edges.holds(words + ", on a full pile", Build.state(11, 3), "constant true",
+      edges.holds(words + ", on a full pile", Build.state(11, 4), "constant true",
           call + " = " + Script.STATE);
     }
     edges.holds("31 .. the sentence is true in no world: with any firmness", MIX,
@@ -445,7 +450,7 @@ public final class StateEdgeTest {
       edges.holds("32 Returns how firmly it is held true: learned with " + s, "atom 2",
           "learn 0 " + s, "firmness = " + s, "negate", "firmness = 0");
     }
-    for (int size : new int[] {0, 3}) {
+    for (int size : new int[] {0, 4, 10}) {
       edges.holds("32 Throws IllegalStateException if the pile is empty, of " + size,
           Build.state(0, size), "firmness = " + Script.STATE, "constant true", "firmness = -1",
           "pop = 0", "firmness = " + Script.STATE);
@@ -571,7 +576,9 @@ public final class StateEdgeTest {
     for (int atom : Far.outside(0, 3)) {
       String refused = "share " + atom + " = " + Script.INDEX;
       edges.holds("35 Throws IndexOutOfBoundsException if atom is not 0 to 3: new", refused);
-      edges.holds("35 Throws IndexOutOfBoundsException if atom is not 0 to 3", MIX, refused,
+      edges.holds("35 Throws IndexOutOfBoundsException if atom is not 0 to 3: all full",
+          Build.state(12, 10), refused);
+      edges.holds("35 Throws IndexOutOfBoundsException if atom is not 0 to 3", RICH, refused,
           "share 0 = 0.5", "share 3 = 0.0");
     }
   }

@@ -1,6 +1,6 @@
 /** Ends a test that does not come to an end: no call may ever fail to end. */
 final class Watch {
-  private static final long LIMIT_MILLIS = 300_000L;
+  private static final long LIMIT_MILLIS = 120_000L;
 
   private Watch() {
   }
