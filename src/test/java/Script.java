@@ -75,12 +75,19 @@ final class Script {
     Object[] arguments = new Object[types.length];
     for (int k = 0; k < types.length; k++) {
       if (types[k] == boolean.class) {
-        arguments[k] = Boolean.valueOf(words[k + 1]);
+        arguments[k] = truth(words[k + 1]);
       } else {
         arguments[k] = Integer.valueOf(words[k + 1]);
       }
     }
     return arguments;
+  }
+
+  private static Boolean truth(String word) {
+    if (!word.equals("true") && !word.equals("false")) {
+      throw new IllegalStateException("neither true nor false: " + word);
+    }
+    return Boolean.valueOf(word);
   }
 
   private static Map<String, Method> methodsOf(Class<?> face) {
