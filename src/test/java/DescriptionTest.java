@@ -199,7 +199,9 @@ public final class DescriptionTest {
         + " worlds become less by n, and greater by s", LEVELS, "atom 2", "learn 0 3 = 32896",
         Build.levels(5, 7, 5, 3, 1, 3, 1, 0, 5, 7, 5, 3, 1, 3, 1, 0), "possible = 32896",
         "negate", "learn 0 1 = 2056",
-        Build.levels(2, 4, 2, 0, 2, 4, 2, 1, 2, 4, 2, 0, 2, 4, 2, 1));
+        Build.levels(2, 4, 2, 0, 2, 4, 2, 1, 2, 4, 2, 0, 2, 4, 2, 1), "learn 0 4 = 2056",
+        Build.levels(2, 4, 2, 0, 5, 7, 5, 4, 2, 4, 2, 0, 5, 7, 5, 4), "learn 0 0 = 34952",
+        Build.levels(2, 4, 2, 0, 1, 3, 1, 0, 2, 4, 2, 0, 1, 3, 1, 0));
     edges.holds("1 NATURAL: the worlds in which p is true, with the level m, get the level 0; the"
         + " level of each other world becomes greater by 1", LEVELS, "atom 2",
         "learn 1 0 = 32896", Build.levels(3, 5, 3, 1, 3, 5, 3, 0, 3, 5, 3, 1, 3, 5, 3, 0));
