@@ -80,21 +80,13 @@ public final class DescriptionEdgeTest {
     return least;
   }
 
-  private static BeliefReviser made(String script) {
-    BeliefReviser x = new BeliefReviser();
-    for (String line : Script.lines(script)) {
-      Script.answer(x, line);
-    }
-    return x;
-  }
-
   private static void leastLevelIsZero() {
     for (int sentence : SENTENCES) {
       for (int way = 0; way <= 3; way++) {
         for (int firmness : new int[] {0, 1, 9}) {
           String learn = Build.sentence(sentence) + "learn " + way + " " + firmness + ";";
           for (String given : new String[] {"", Build.LEVELS, Build.base(10) + "load;"}) {
-            BeliefReviser x = made(given + learn);
+            BeliefReviser x = Script.made(given + learn);
             String words = "the least one of all worlds is 0: " + sentence + " learned, " + way;
             edges.holds(words, given + learn, "layers; load");
             edges.due("the least level", leastLevel(x), 0);
@@ -105,7 +97,7 @@ public final class DescriptionEdgeTest {
     }
     for (int size = 0; size <= 10; size++) {
       edges.holds("the least one of all worlds is 0: loaded of " + size, Build.base(size), "load");
-      edges.due("the least level", leastLevel(made(Build.base(size) + "load")), 0);
+      edges.due("the least level", leastLevel(Script.made(Build.base(size) + "load")), 0);
     }
   }
 

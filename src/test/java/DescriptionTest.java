@@ -67,15 +67,7 @@ public final class DescriptionTest {
     edges.holds("A sentence is known by the set of the worlds in which it is true", first, then,
         "digest");
     edges.due("an object with the same sentence, built otherwise",
-        Portrait.of(made(other, then)), Portrait.of(made(first, then)));
-  }
-
-  private static BeliefReviser made(String... script) {
-    BeliefReviser x = new BeliefReviser();
-    for (String line : Script.lines(script)) {
-      Script.answer(x, line);
-    }
-    return x;
+        Portrait.of(Script.made(other, then)), Portrait.of(Script.made(first, then)));
   }
 
   private static void entailment() {

@@ -54,6 +54,15 @@ final class Script {
     return answer.startsWith("throws.");
   }
 
+  /** A new object on which these calls were made. */
+  static BeliefReviser made(String... parts) {
+    BeliefReviser x = new BeliefReviser();
+    for (String line : lines(parts)) {
+      answer(x, line);
+    }
+    return x;
+  }
+
   /** Makes the call on a program or a model. */
   static String answer(Object on, String line) {
     String[] words = call(line).split(" ");
